@@ -955,7 +955,12 @@ public final class WallHarbour {
                 return;
             }
             for (int line = 0; line < Law.MOST_LINES; line++) {
-                readLine(tape);
+                tape.needWord("charge");
+                int amount = tape.takeNumber(1, 3, 0, 999);
+                if (tape.takeWord("if")) {
+                    readAny(tape, 0);
+                }
+                draft.endLine(amount);
                 if (!tape.takeSign(';')) {
                     tape.needEnd();
                     return;
@@ -964,28 +969,16 @@ public final class WallHarbour {
             tape.wrong = true;
         }
 
-        private void readLine(Tape tape) {
-            tape.needWord("charge");
-            int amount = tape.takeNumber(1, 3, 0, 999);
-            if (tape.takeWord("if")) {
-                readAny(tape, 0);
-            }
-            draft.endLine(amount);
-        }
-
         private void readAny(Tape tape, int deep) {
-            readAll(tape, deep);
-            for (int i = 0; i < MOST_BYTES && tape.takeWord("or"); i++) {
-                readAll(tape, deep);
-                draft.put(Law.OR);
-            }
-        }
-
-        private void readAll(Tape tape, int deep) {
-            readAtom(tape, deep);
-            for (int i = 0; i < MOST_BYTES && tape.takeWord("and"); i++) {
+            for (int i = 0; i < MOST_BYTES && (i == 0 || tape.takeWord("or")); i++) {
                 readAtom(tape, deep);
-                draft.put(Law.AND);
+                for (int j = 0; j < MOST_BYTES && tape.takeWord("and"); j++) {
+                    readAtom(tape, deep);
+                    draft.put(Law.AND);
+                }
+                if (i > 0) {
+                    draft.put(Law.OR);
+                }
             }
         }
 

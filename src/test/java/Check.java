@@ -41,6 +41,9 @@ final class Check {
             if (failed <= 50) {
                 System.out.println(otherwise);
             }
+            if (Boolean.getBoolean("stopAtOnce")) {
+                System.exit(1);
+            }
         }
     }
 

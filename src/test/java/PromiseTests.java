@@ -19,6 +19,7 @@ public final class PromiseTests {
         law();
         lawConditions();
         harbourFaults();
+        figures();
         harbourFaultsOfOrder();
         lawFaults();
         now();
@@ -46,6 +47,7 @@ public final class PromiseTests {
         met();
         imageAndBack();
         count();
+        readmesExample();
         Check.finish("PromiseTests");
     }
 
@@ -261,6 +263,27 @@ public final class PromiseTests {
             Check.same("fault ahead", x.fault(), 3);
             Check.same("fault of " + fault[0], Texts.harbourFault(x, (String) fault[0]), (Integer) fault[1]);
             Check.same("texts behind " + fault[0], x.count(3), (Integer) fault[1] == NONE ? 1 : 0);
+        }
+    }
+
+    /** Each number may have three figures (of a ship's from and to four), and one more is too many. */
+    private static void figures() {
+        String[] lines = {"thing west 1 1 1 1 1 from 1 to 1", "ship west 1 1 1 1 1 pace west 1 from 1 to 1", "hole west 1 1",
+            "wall 1 from west 1 to west 1 top 1", "cloud 1 1", "fog 1", "moon 1", "tide 1 low 1", "charge 1 if 1<1+1"};
+        for (String line : lines) {
+            boolean isLaw = line.startsWith("charge");
+            int number = 0;
+            for (int at = 0; at < line.length(); at++) {
+                if (line.charAt(at) == '1') {
+                    number++;
+                    boolean isMinute = line.startsWith("ship") && number > 6;
+                    String most = line.substring(0, at) + (isMinute ? "000" : "00") + line.substring(at);
+                    String more = line.substring(0, at) + (isMinute ? "0000" : "000") + line.substring(at);
+                    WallHarbour x = new WallHarbour();
+                    Check.same("figures of " + most, isLaw ? Texts.lawFault(x, most) : Texts.harbourFault(x, most), NONE);
+                    Check.same("figures of " + more, isLaw ? Texts.lawFault(x, more) : Texts.harbourFault(x, more), at);
+                }
+            }
         }
     }
 
@@ -595,7 +618,6 @@ public final class PromiseTests {
         Check.same("drawn", x.draw(0, 0), 0);
         Check.same("of the thing", x.which(0), 1);
         Check.same("drawn", x.draw(0, 1), 1);
-        Check.same("where: -21/9 and -3", x.places(1, 13, 0, 0), x.places(1, 13, 0, 0));
         Check.fails("no body", INDEX, () -> x.draw(1, 0));
         Check.fails("no hole", INDEX, () -> x.draw(0, 2));
         x.now(5, 710);
@@ -772,6 +794,31 @@ public final class PromiseTests {
         Check.same("AT beyond", x.paces(0, 6, 40, 0), 0);
         Check.same("AT beyond", x.paces(0, 6, 40, 1), NOTHING);
         Check.same("AT beyond", x.paces(0, 6, 40, 2), NOTHING);
+        // at Y 10 U is - X
+        WallHarbour ends = Texts.with("hole 0 10");
+        ends.trace(0, 0, 0, -999, 0);
+        ends.trace(0, 1, 0, -990, 0);
+        ends.trace(0, 2, 0, -999, 0);
+        ends.trace(0, 3, 0, -991, 0);
+        ends.trace(1, 1, 0, 991, 0);
+        ends.trace(1, 2, 0, 982, 0);
+        ends.trace(1, 3, 0, 990, 0);
+        ends.trace(1, 4, 0, 982, 0);
+        Check.same("AT 999", ends.paces(0, 1, 10, 0), 1);
+        Check.same("AT 999", ends.paces(0, 1, 10, 1), -9);
+        Check.same("AT 999", ends.paces(0, 1, 10, 2), 999);
+        Check.same("AT 981", ends.paces(1, 2, 10, 2), 981);
+        Check.same("AT 1015", ends.paces(2, 3, 10, 0), 0);
+        Check.same("AT - 1000", ends.paces(4, 5, 10, 0), 0);
+        Check.same("AT - 1014", ends.paces(6, 7, 10, 0), 0);
+        ends.trace(2, 1, 0, 990, 0);
+        ends.trace(2, 2, 0, 981, 0);
+        Check.same("AT - 999", ends.paces(8, 9, 10, 0), 1);
+        Check.same("AT - 999", ends.paces(8, 9, 10, 1), 9);
+        Check.same("AT - 999", ends.paces(8, 9, 10, 2), -999);
+        ends.trace(3, 1, 0, -991, 0);
+        ends.trace(3, 2, 0, -982, 0);
+        Check.same("AT 1000", ends.paces(10, 11, 10, 0), 0);
         Check.fails("no tracing", INDEX, () -> x.paces(-1, 1, 40, 0));
         Check.fails("no tracing", INDEX, () -> x.paces(0, 7, 40, 0));
         Check.fails("holes", ILLEGAL, () -> x.paces(0, 2, 40, 0));
@@ -839,6 +886,7 @@ public final class PromiseTests {
         Check.same("one, and the other not: DEEP", x.setting(1, 1, 3), 9);
         Check.same("holes and wall stay", x.count(2), 0);
         Check.same("holes and wall stay", x.count(11), 10);
+        settingsEnds();
         WallHarbour y = Texts.with("wall 10 from west 99 to 99 top 99;thing 0 300 0 0 0 from 0 to 0");
         y.now(0, NOON);
         Check.same("it cannot be", y.setting(0, 0, 0), NOTHING);
@@ -848,6 +896,30 @@ public final class PromiseTests {
         y.now(0, 0);
         Check.same("by night", y.setting(1, 0, 0), 0);
         Check.same("by night: DEEP", y.setting(1, 0, 3), 1);
+    }
+
+    /** Walls so narrow that one setting alone will do, at an end of what may be or just beyond it. */
+    private static void settingsEnds() {
+        // U is P and (P less X) DEEP by Y, V is H and (H less Z) DEEP by Y
+        Object[][] scenes = {
+            {"thing 9 1 0 0 21 from 0 to 0; wall 1 from 30 to 30 top 0", 1, 10, 20, 20},
+            {"thing 0 1 0 0 2 from 0 to 0; wall 1 from west 20 to west 20 top 0", 1, -10, 1, 1},
+            {"thing 10 300 0 0 5 from 0 to 0; wall 1 from 10 to 10 top 99", 1, 10, 1, 1},
+            {"thing 10 20 0 0 40 from 0 to 0; wall 1 from 10 to 10 top 0", 1, 10, 8, 5},
+            {"thing 11 300 0 0 5 from 0 to 0; wall 1 from 11 to 11 top 99", 0, -10, 1, 1},
+            {"thing west 11 300 0 0 5 from 0 to 0; wall 1 from west 11 to west 11 top 99", 0, -10, 1, 1},
+            {"thing west 10 20 0 0 42 from 0 to 0; wall 1 from 30 to 30 top 0", 0, -10, 1, 1},
+            {"thing 9 1 0 0 10 from 0 to 0; wall 1 from 31 to 31 top 99", 0, -10, 1, 1},
+            {"thing 0 300 0 0 0 from 0 to 0; wall 1 from west 99 to 99 top 0", 0, -10, 1, 1},
+            {"thing 99 1 0 0 5 from 0 to 0; wall 1 from west 10 to 10 top 20", 0, -10, 1, 1},
+        };
+        for (Object[] scene : scenes) {
+            WallHarbour x = Texts.with((String) scene[0]);
+            x.now(0, NOON);
+            for (int what = 0; what < 4; what++) {
+                Check.same("setting " + what + " of " + scene[0], x.setting(1, NONE, what), (Integer) scene[1 + what]);
+            }
+        }
     }
 
     private static String lanes(WallHarbour x) {
@@ -955,6 +1027,8 @@ public final class PromiseTests {
         Texts.harbour(y, "tide 0 0; ship west 914 50 0 0 20 pace 1 from 0 to 1439");
         y.now(1, 0);
         Check.same("a ship from the west", y.met(11, 0, 0), 919);
+        WallHarbour z = Texts.with("hole 0 10; thing 10 100 0 0 20 from 0 to 5; ship 5 50 0 0 20 pace 0 from 1439 to 1439");
+        Check.same("at the last minute", z.met(0, 10, 0), 1439);
     }
 
     private static void imageAndBack() {
@@ -1023,6 +1097,19 @@ public final class PromiseTests {
             all.append(x.places(-1, z, 0, 0)).append(' ').append(x.places(-1, z, 1, 0)).append(' ');
         }
         return all.toString();
+    }
+
+    private static void readmesExample() {
+        WallHarbour room = new WallHarbour();
+        room.feed(0x686f6c65, 0x20302031, 0x303b7468, 0x696e6720, 0x31302031);
+        room.feed(0x30302030, 0x20302032, 0x30206672, 0x6f6d2030, 0x20746f20);
+        room.feed(0x35300000, 0, 0, 0, 0);
+        Check.same("end", room.end(42), true);
+        Check.same("harbour", room.harbour(), 1);
+        Check.same("now", room.now(3, 720), 0);
+        Check.same("seen", room.seen(0, 0), true);
+        Check.same("spot", room.spot(0, 0, true, 0), 9);
+        Check.same("draw", room.draw(0, 0), 0);
     }
 
     private static void count() {

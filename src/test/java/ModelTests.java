@@ -1,0 +1,275 @@
+import java.util.Random;
+import java.util.function.IntSupplier;
+
+/** Long runs of calls, by chance but always the same, each answered by the class and by the model. */
+public final class ModelTests {
+    private static final int RUNS = 700;
+    private static final int CALLS = 512;
+
+    private final Random chance;
+    private final WallHarbour x = new WallHarbour();
+    private final Model model = new Model();
+    private final RandomTexts texts;
+    private final int run;
+    private int calls;
+
+    private ModelTests(int run) {
+        this.run = run;
+        chance = new Random(run);
+        texts = new RandomTexts(chance, run % 3);
+    }
+
+    public static void main(String[] args) {
+        for (int run = 0; run < RUNS; run++) {
+            new ModelTests(run).go();
+        }
+        Check.finish("ModelTests");
+    }
+
+    private static String answer(IntSupplier call) {
+        try {
+            return Integer.toString(call.getAsInt());
+        } catch (RuntimeException e) {
+            return e.getClass().getName();
+        }
+    }
+
+    private void same(String call, IntSupplier got, IntSupplier due) {
+        calls++;
+        Check.same("run " + run + ", call " + calls + ": " + call, answer(got), answer(due));
+    }
+
+    private void go() {
+        harbour();
+        harbour();
+        if (chance.nextBoolean()) {
+            law();
+        }
+        while (calls < CALLS) {
+            int kind = chance.nextInt(100);
+            if (kind < 5) {
+                harbour();
+            } else if (kind < 9) {
+                law();
+            } else if (kind < 12) {
+                tape();
+            } else if (kind < 20) {
+                time();
+            } else if (kind < 55) {
+                look();
+            } else if (kind < 80) {
+                trace();
+            } else {
+                find();
+            }
+        }
+    }
+
+    private void read(boolean harbour) {
+        if (harbour) {
+            same("harbour()", x::harbour, model::harbour);
+        } else {
+            same("law()", x::law, model::law);
+        }
+        same("fault()", x::fault, model::fault);
+    }
+
+    private void feed(String text) {
+        for (int at = 0; at < text.length(); at += 20) {
+            int a = Texts.word(text, at);
+            int b = Texts.word(text, at + 4);
+            int c = Texts.word(text, at + 8);
+            int d = Texts.word(text, at + 12);
+            int e = Texts.word(text, at + 16);
+            same("feed of " + text, () -> x.feed(a, b, c, d, e), () -> model.feed(a, b, c, d, e));
+        }
+        end(text.length());
+    }
+
+    private void end(int n) {
+        same("end " + n, () -> x.end(n) ? 1 : 0, () -> model.end(n) ? 1 : 0);
+    }
+
+    private void harbour() {
+        feed(texts.harbour());
+        read(chance.nextInt(50) > 0);
+    }
+
+    private void law() {
+        feed(texts.law());
+        read(chance.nextInt(50) == 0);
+    }
+
+    private void tape() {
+        switch (chance.nextInt(4)) {
+            case 0: end(chance.nextInt(60) - 5); break;
+            case 1: read(chance.nextBoolean()); break;
+            case 2: same("back()", () -> x.back() ? 1 : 0, () -> model.back() ? 1 : 0); break;
+            default:
+                x.image();
+                model.image();
+        }
+    }
+
+    private int day() {
+        return chance.nextInt(40) == 0 ? chance.nextInt(3) * 1001 - 1001 : texts.day();
+    }
+
+    private int minute() {
+        return chance.nextInt(40) == 0 ? chance.nextInt(3) * 1441 - 1441 : texts.minute();
+    }
+
+    private int body() {
+        int kind = chance.nextInt(24);
+        return kind == 0 ? chance.nextInt(40) - 10 : kind < 14 ? chance.nextInt(4) : 10 + chance.nextInt(3);
+    }
+
+    private int hole() {
+        return chance.nextInt(20) == 0 ? chance.nextInt(6) - 2 : chance.nextInt(2);
+    }
+
+    private int what(int most) {
+        return chance.nextInt(20) == 0 ? chance.nextInt(40) - 20 : chance.nextInt(most + 1);
+    }
+
+    private int tracing() {
+        return chance.nextInt(20) == 0 ? chance.nextInt(60) - 10 : chance.nextInt(1 + Math.max(0, model.count(7)));
+    }
+
+    private void time() {
+        int day = day();
+        int minute = minute();
+        same("now " + day + " " + minute, () -> x.now(day, minute), () -> model.now(day, minute));
+        same("tide", () -> x.tide(day, minute), () -> model.tide(day, minute));
+        int what = what(15);
+        same("count " + what, () -> x.count(what), () -> model.count(what));
+    }
+
+    private void look() {
+        int body = body();
+        int hole = hole();
+        switch (chance.nextInt(6)) {
+            case 0: {
+                int what = what(7);
+                same("body " + body + " " + what, () -> x.body(body, what), () -> model.body(body, what));
+                break;
+            }
+            case 1: {
+                int what = what(2);
+                boolean up = chance.nextBoolean();
+                same("spot " + body + " " + hole + " " + up + " " + what, () -> x.spot(body, hole, up, what),
+                        () -> model.spot(body, hole, up, what));
+                break;
+            }
+            case 2: same("seen " + body + " " + hole, () -> x.seen(body, hole) ? 1 : 0, () -> model.seen(body, hole) ? 1 : 0); break;
+            case 3: same("hider " + body + " " + hole, () -> x.hider(body, hole), () -> model.hider(body, hole)); break;
+            case 4: same("charge " + body, () -> x.charge(body), () -> model.charge(body)); break;
+            default: {
+                int day = day();
+                same("charges " + day, () -> x.charges(day), () -> model.charges(day));
+            }
+        }
+    }
+
+    private void trace() {
+        int body = body();
+        int hole = hole();
+        int tracing = tracing();
+        switch (chance.nextInt(8)) {
+            case 0:
+            case 1: {
+                int day = day();
+                int minute = minute();
+                int[] uv = {0, 0};
+                if (chance.nextInt(3) == 0) {
+                    uv[0] = chance.nextInt(2100) - 1050;
+                    uv[1] = chance.nextInt(2100) - 1050;
+                } else {
+                    aim(body, hole, uv);
+                }
+                same("trace " + day + " " + minute + " " + hole + " " + uv[0] + " " + uv[1],
+                        () -> x.trace(day, minute, hole, uv[0], uv[1]), () -> model.trace(day, minute, hole, uv[0], uv[1]));
+                break;
+            }
+            case 2:
+            case 3: same("draw " + body + " " + hole, () -> x.draw(body, hole), () -> model.draw(body, hole)); break;
+            case 4: same("undo", x::undo, model::undo); break;
+            case 5: same("which " + tracing, () -> x.which(tracing), () -> model.which(tracing)); break;
+            case 6: same("slips", x::slips, model::slips); break;
+            default: {
+                boolean last = chance.nextBoolean();
+                same("when " + body + " " + last, () -> x.when(body, last), () -> model.when(body, last));
+            }
+        }
+    }
+
+    /** Where the body is on the wall now, or beside it. */
+    private void aim(int body, int hole, int[] uv) {
+        try {
+            uv[0] = model.spot(body, hole, false, 0) + (chance.nextInt(8) == 0 ? 1 : 0);
+            uv[1] = model.spot(body, hole, true, 0) - (chance.nextInt(8) == 0 ? 1 : 0);
+        } catch (IndexOutOfBoundsException e) {
+            uv[0] = chance.nextInt(9);
+        }
+    }
+
+    private void find() {
+        int body = body();
+        int hole = hole();
+        switch (chance.nextInt(12)) {
+            case 0:
+            case 1: {
+                int bits = chance.nextInt(3) == 0 ? chance.nextInt() : 1 << chance.nextInt(12) | 1 << chance.nextInt(4);
+                int z = chance.nextInt(30) == 0 ? chance.nextInt(300) - 150 : chance.nextInt(24) - 4;
+                int e = chance.nextInt(20) == 0 ? chance.nextInt(40) - 4 : chance.nextInt(3);
+                int what = what(2);
+                same("places " + bits + " " + z + " " + e + " " + what, () -> x.places(bits, z, e, what),
+                        () -> model.places(bits, z, e, what));
+                break;
+            }
+            case 2:
+            case 3:
+            case 4: {
+                int first = tracing();
+                int second = tracing();
+                int y = chance.nextInt(30) == 0 ? chance.nextInt(320) - 10 : texts.y();
+                int what = what(2);
+                same("paces " + first + " " + second + " " + y + " " + what, () -> x.paces(first, second, y, what),
+                        () -> model.paces(first, second, y, what));
+                break;
+            }
+            case 5:
+            case 6: {
+                int at = chance.nextInt(30) == 0 ? chance.nextInt(300) - 150 : 0;
+                int y = chance.nextInt(30) == 0 ? chance.nextInt(320) - 10 : texts.y();
+                int v = chance.nextInt(40) - 10;
+                boolean many = chance.nextBoolean();
+                same("mark " + at + " " + y + " " + hole + " " + v + " " + many, () -> x.mark(at, y, hole, v, many),
+                        () -> model.mark(at, y, hole, v, many));
+                break;
+            }
+            case 7:
+                if (chance.nextInt(6) == 0) {
+                    setting();
+                }
+                break;
+            case 8: {
+                int minute = chance.nextInt(20) == 0 ? chance.nextInt(30) - 10 : chance.nextInt(14) - 1;
+                same("way " + minute, () -> x.way(minute), () -> model.way(minute));
+                break;
+            }
+            default: {
+                int other = body();
+                same("met " + body + " " + other + " " + hole, () -> x.met(body, other, hole), () -> model.met(body, other, hole));
+            }
+        }
+    }
+
+    private void setting() {
+        int bits = chance.nextInt();
+        int never = chance.nextInt(3) == 0 ? -1 : body();
+        int what = what(3);
+        same("setting " + bits + " " + never + " " + what, () -> x.setting(bits, never, what),
+                () -> model.setting(bits, never, what));
+    }
+}

@@ -231,7 +231,7 @@ final class Model {
         }
     }
 
-    private World world = new World();
+    World world = new World();
     private World image;
     private StringBuilder tape = new StringBuilder();
     private int fault = NONE;

@@ -1,9 +1,10 @@
+import java.util.List;
 import java.util.Random;
 import java.util.function.IntSupplier;
 
 /** Long runs of calls, by chance but always the same, each answered by the class and by the model. */
 public final class ModelTests {
-    private static final int RUNS = 700;
+    private static final int RUNS = 600;
     private static final int CALLS = 512;
 
     private final Random chance;
@@ -16,7 +17,7 @@ public final class ModelTests {
     private ModelTests(int run) {
         this.run = run;
         chance = new Random(run);
-        texts = new RandomTexts(chance, run % 3);
+        texts = new RandomTexts(chance, run % 5 < 3 ? 0 : run % 5 - 2);
     }
 
     public static void main(String[] args) {
@@ -42,9 +43,11 @@ public final class ModelTests {
     private void go() {
         harbour();
         harbour();
-        if (chance.nextBoolean()) {
+        harbour();
+        if (chance.nextInt(4) > 0) {
             law();
         }
+        time();
         while (calls < CALLS) {
             int kind = chance.nextInt(100);
             if (kind < 5) {
@@ -120,12 +123,14 @@ public final class ModelTests {
     }
 
     private int body() {
-        int kind = chance.nextInt(24);
-        return kind == 0 ? chance.nextInt(40) - 10 : kind < 14 ? chance.nextInt(4) : 10 + chance.nextInt(3);
+        List<Model.Body> bodies = model.world.bodies();
+        return bodies.isEmpty() || chance.nextInt(24) == 0 ? chance.nextInt(40) - 10
+                : bodies.get(chance.nextInt(bodies.size())).number();
     }
 
     private int hole() {
-        return chance.nextInt(20) == 0 ? chance.nextInt(6) - 2 : chance.nextInt(2);
+        int holes = model.world.holes.size();
+        return holes == 0 || chance.nextInt(24) == 0 ? chance.nextInt(6) - 2 : chance.nextInt(holes);
     }
 
     private int what(int most) {
@@ -171,6 +176,11 @@ public final class ModelTests {
         }
     }
 
+    private void trace(int day, int minute, int hole, int u, int v) {
+        same("trace " + day + " " + minute + " " + hole + " " + u + " " + v,
+                () -> x.trace(day, minute, hole, u, v), () -> model.trace(day, minute, hole, u, v));
+    }
+
     private void trace() {
         int body = body();
         int hole = hole();
@@ -178,17 +188,12 @@ public final class ModelTests {
         switch (chance.nextInt(8)) {
             case 0:
             case 1: {
-                int day = day();
-                int minute = minute();
-                int[] uv = {0, 0};
-                if (chance.nextInt(3) == 0) {
-                    uv[0] = chance.nextInt(2100) - 1050;
-                    uv[1] = chance.nextInt(2100) - 1050;
-                } else {
+                boolean isNow = chance.nextBoolean();
+                int[] uv = {chance.nextInt(2100) - 1050, chance.nextInt(2100) - 1050};
+                if (chance.nextInt(6) > 0) {
                     aim(body, hole, uv);
                 }
-                same("trace " + day + " " + minute + " " + hole + " " + uv[0] + " " + uv[1],
-                        () -> x.trace(day, minute, hole, uv[0], uv[1]), () -> model.trace(day, minute, hole, uv[0], uv[1]));
+                trace(isNow ? model.world.day : day(), isNow ? model.world.minute : minute(), hole, uv[0], uv[1]);
                 break;
             }
             case 2:
@@ -217,39 +222,16 @@ public final class ModelTests {
         int body = body();
         int hole = hole();
         switch (chance.nextInt(12)) {
-            case 0:
-            case 1: {
-                int bits = chance.nextInt(3) == 0 ? chance.nextInt() : 1 << chance.nextInt(12) | 1 << chance.nextInt(4);
-                int z = chance.nextInt(30) == 0 ? chance.nextInt(300) - 150 : chance.nextInt(24) - 4;
-                int e = chance.nextInt(20) == 0 ? chance.nextInt(40) - 4 : chance.nextInt(3);
-                int what = what(2);
-                same("places " + bits + " " + z + " " + e + " " + what, () -> x.places(bits, z, e, what),
-                        () -> model.places(bits, z, e, what));
-                break;
-            }
-            case 2:
+            case 0: places(chance.nextInt(3) == 0 ? chance.nextInt() : 1 << chance.nextInt(12) | 1 << chance.nextInt(4),
+                        chance.nextInt(30) == 0 ? chance.nextInt(300) - 150 : chance.nextInt(24) - 4); break;
+            case 1: tracedPlace(); break;
+            case 2: paces(tracing(), tracing(), chance.nextInt(30) == 0 ? chance.nextInt(320) - 10 : texts.y()); break;
             case 3:
-            case 4: {
-                int first = tracing();
-                int second = tracing();
-                int y = chance.nextInt(30) == 0 ? chance.nextInt(320) - 10 : texts.y();
-                int what = what(2);
-                same("paces " + first + " " + second + " " + y + " " + what, () -> x.paces(first, second, y, what),
-                        () -> model.paces(first, second, y, what));
-                break;
-            }
+            case 4: tracedPace(); break;
             case 5:
-            case 6: {
-                int at = chance.nextInt(30) == 0 ? chance.nextInt(300) - 150 : 0;
-                int y = chance.nextInt(30) == 0 ? chance.nextInt(320) - 10 : texts.y();
-                int v = chance.nextInt(40) - 10;
-                boolean many = chance.nextBoolean();
-                same("mark " + at + " " + y + " " + hole + " " + v + " " + many, () -> x.mark(at, y, hole, v, many),
-                        () -> model.mark(at, y, hole, v, many));
-                break;
-            }
+            case 6: mark(hole); break;
             case 7:
-                if (chance.nextInt(6) == 0) {
+                if (chance.nextInt(4) == 0) {
                     setting();
                 }
                 break;
@@ -263,6 +245,80 @@ public final class ModelTests {
                 same("met " + body + " " + other + " " + hole, () -> x.met(body, other, hole), () -> model.met(body, other, hole));
             }
         }
+    }
+
+    private void places(int bits, int z) {
+        int e = chance.nextInt(20) == 0 ? chance.nextInt(40) - 4 : chance.nextInt(3);
+        int what = what(2);
+        same("places " + bits + " " + z + " " + e + " " + what, () -> x.places(bits, z, e, what),
+                () -> model.places(bits, z, e, what));
+    }
+
+    /** Undoes some tracings, so that there is room for others. */
+    private void makeRoom() {
+        while (model.world.tracings.size() > 20) {
+            same("undo", x::undo, model::undo);
+        }
+    }
+
+    /** A place is traced by some holes, by some of them wrong, and looked for. */
+    private void tracedPlace() {
+        makeRoom();
+        int at = chance.nextInt(199) - 99;
+        int y = texts.y();
+        int z = chance.nextInt(24) - 4;
+        int bits = 0;
+        int many = 1 + chance.nextInt(5);
+        for (int i = 0; i < many && !model.world.holes.isEmpty(); i++) {
+            int hole = chance.nextInt(model.world.holes.size());
+            Model.Hole by = model.world.holes.get(hole);
+            bits |= 1 << model.world.tracings.size();
+            trace(1, 2, hole, model.world.u(by, model.world.deep, at, y).down() + (chance.nextInt(9) == 0 ? 1 : 0),
+                    model.world.v(by, model.world.deep, z, y).down() + (chance.nextInt(9) == 0 ? 1 : 0));
+        }
+        places(bits, z);
+        places(bits, z);
+    }
+
+    private void paces(int first, int second, int y) {
+        int what = what(2);
+        same("paces " + first + " " + second + " " + y + " " + what, () -> x.paces(first, second, y, what),
+                () -> model.paces(first, second, y, what));
+    }
+
+    /** A ship is traced at two minutes, and its pace looked for. */
+    private void tracedPace() {
+        makeRoom();
+        if (model.world.holes.isEmpty()) {
+            return;
+        }
+        int hole = chance.nextInt(model.world.holes.size());
+        Model.Hole by = model.world.holes.get(hole);
+        int y = texts.y();
+        int pace = chance.nextInt(19) - 9;
+        int minute = chance.nextInt(100);
+        int later = minute + 1 + chance.nextInt(30);
+        int at = chance.nextInt(8) == 0 ? 990 + chance.nextInt(20) : chance.nextInt(300) - 150 - pace * minute;
+        int first = model.world.tracings.size();
+        trace(3, minute, hole, model.world.u(by, model.world.deep, at + pace * minute, y).down(), 0);
+        trace(3, later, hole, model.world.u(by, model.world.deep, at + pace * later, y).down(), 1);
+        for (int i = 0; i < 3; i++) {
+            paces(first, first + 1, y);
+        }
+        paces(first + 1, first, chance.nextBoolean() ? y : texts.y());
+    }
+
+    private void mark(int hole) {
+        int at = chance.nextInt(30) == 0 ? chance.nextInt(300) - 150 : 0;
+        int y = chance.nextInt(30) == 0 ? chance.nextInt(320) - 10 : texts.y();
+        int v = chance.nextInt(40) - 10;
+        if (chance.nextInt(4) > 0 && hole >= 0 && hole < model.world.holes.size() && y > 0) {
+            v = model.world.v(model.world.holes.get(hole), model.world.deep, chance.nextInt(21) - 10, y).down();
+        }
+        int read = v;
+        boolean many = chance.nextBoolean();
+        same("mark " + at + " " + y + " " + hole + " " + v + " " + many, () -> x.mark(at, y, hole, read, many),
+                () -> model.mark(at, y, hole, read, many));
     }
 
     private void setting() {

@@ -51,7 +51,7 @@ final class RandomTexts {
     }
 
     int y() {
-        return isWide() ? 1 + upTo(299) : 10 * (1 + upTo(11));
+        return isWide() ? 1 + upTo(299) : chance.nextInt(4) == 0 ? 10 + upTo(120) : 20 * (1 + upTo(5));
     }
 
     int day() {
@@ -59,7 +59,7 @@ final class RandomTexts {
     }
 
     int minute() {
-        return isWide() ? upTo(1439) : chance.nextInt(6) == 0 ? 60 * upTo(23) : 700 + upTo(40);
+        return isWide() ? upTo(1439) : chance.nextInt(6) == 0 ? 60 * upTo(23) : 380 + upTo(40);
     }
 
     String harbour() {
@@ -82,8 +82,11 @@ final class RandomTexts {
         }
         if (kind < 12) {
             int from = minute();
-            return "ship" + sideways(999, 30) + shape() + " pace" + sideways(9, 2) + " from" + blanks() + (isWide() ? 0 : from)
-                    + " to" + number(from, 1439);
+            int pace = chance.nextInt(5) - 2;
+            int at = isWide() ? upTo(1998) - 999 : Math.max(-999, Math.min(999, upTo(40) - 20 - pace * (from + upTo(40))));
+            String signed = isWide() ? sideways(9, 9) : (pace < 0 ? " west " : " ") + Math.abs(pace);
+            return "ship" + (at < 0 ? " west " : " ") + Math.abs(at) + shape() + " pace" + signed
+                    + " from" + blanks() + from + " to" + number(from, 1439);
         }
         switch (kind) {
             case 12:
@@ -95,7 +98,7 @@ final class RandomTexts {
                         + blanks() + (isWide() ? within(0, 99) : within(10, 60)) + " top" + number(5, 99);
             }
             case 16: return "wall " + within(1, 50) + " from " + upTo(20) + " to" + number(20, 99) + " top" + number(0, 99);
-            case 17: return chance.nextInt(3) == 0 ? "cloud" + number(0, 23) + number(0, 23) : "clear";
+            case 17: return chance.nextInt(4) == 0 ? "cloud" + number(0, 23) + number(0, 23) : "clear";
             case 18: return chance.nextInt(4) == 0 ? "fog" + number(1, 300) : "fog " + within(100, 300);
             case 19: return "moon" + number(0, 11);
             default: return "tide" + number(0, 11) + (chance.nextInt(3) == 0 ? " low" : "") + number(0, 9);
@@ -104,8 +107,8 @@ final class RandomTexts {
 
     private String shape() {
         boolean wide = isWide();
-        int low = wide ? upTo(99) : chance.nextInt(3) * upTo(6);
-        return blanks() + y() + (wide ? number(0, 20) : number(0, 4)) + blanks() + low + number(low, wide ? 99 : low + 12);
+        int low = wide ? upTo(99) : chance.nextInt(3) == 0 ? upTo(6) : 0;
+        return blanks() + y() + (wide ? number(0, 20) : number(0, 8)) + blanks() + low + number(low, wide ? 99 : low + 16);
     }
 
     String law() {

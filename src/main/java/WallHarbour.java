@@ -868,7 +868,6 @@ public final class WallHarbour {
                 return;
             }
             bodies.x[row] = tape.takeSideways(3, -MOST_X, MOST_X);
-            bodies.pace[row] = 0;
             readShape(tape, row);
             tape.needWord("from");
             bodies.from[row] = tape.takeNumber(1, 3, 0, MOST_DAY);

@@ -6,6 +6,9 @@ import java.util.function.IntSupplier;
 public final class ModelTests {
     private static final int RUNS = 600;
     private static final int CALLS = 512;
+    private static final int[] WILD = {0, 1, 2, 3, 9, 10, 11, 12, 15, 16, 29, 30, 31, 32, 39, 40, 60, 99, 100, 300, 301, 720,
+        999, 1000, 1439, 1440, -1, -2, -9, -99, -100, -999, -1000, 65536, 1 << 30, Integer.MAX_VALUE, Integer.MIN_VALUE,
+        Integer.MAX_VALUE - 12, Integer.MIN_VALUE + 1};
 
     private final Random chance;
     private final WallHarbour x = new WallHarbour();
@@ -56,6 +59,8 @@ public final class ModelTests {
                 law();
             } else if (kind < 12) {
                 tape();
+            } else if (kind < 14) {
+                wild();
             } else if (kind < 20) {
                 time();
             } else if (kind < 55) {
@@ -319,6 +324,43 @@ public final class ModelTests {
         boolean many = chance.nextBoolean();
         same("mark " + at + " " + y + " " + hole + " " + v + " " + many, () -> x.mark(at, y, hole, read, many),
                 () -> model.mark(at, y, hole, read, many));
+    }
+
+    private int any() {
+        return WILD[chance.nextInt(WILD.length)];
+    }
+
+    /** Whatever the numbers are, no call throws but what the document says. */
+    private void wild() {
+        int a = any();
+        int b = any();
+        int c = any();
+        int d = any();
+        int e = any();
+        boolean f = chance.nextBoolean();
+        String of = " of " + a + " " + b + " " + c + " " + d + " " + e + " " + f;
+        switch (chance.nextInt(20)) {
+            case 0: same("end" + of, () -> x.end(a) ? 1 : 0, () -> model.end(a) ? 1 : 0); break;
+            case 1: same("now" + of, () -> x.now(a, b), () -> model.now(a, b)); break;
+            case 2: same("body" + of, () -> x.body(a, b), () -> model.body(a, b)); break;
+            case 3: same("spot" + of, () -> x.spot(a, b, f, c), () -> model.spot(a, b, f, c)); break;
+            case 4: same("seen" + of, () -> x.seen(a, b) ? 1 : 0, () -> model.seen(a, b) ? 1 : 0); break;
+            case 5: same("hider" + of, () -> x.hider(a, b), () -> model.hider(a, b)); break;
+            case 6: same("charge" + of, () -> x.charge(a), () -> model.charge(a)); break;
+            case 7: same("charges" + of, () -> x.charges(a), () -> model.charges(a)); break;
+            case 8: same("tide" + of, () -> x.tide(a, b), () -> model.tide(a, b)); break;
+            case 9: same("trace" + of, () -> x.trace(a, b, c, d, e), () -> model.trace(a, b, c, d, e)); break;
+            case 10: same("draw" + of, () -> x.draw(a, b), () -> model.draw(a, b)); break;
+            case 11: same("which" + of, () -> x.which(a), () -> model.which(a)); break;
+            case 12: same("places" + of, () -> x.places(a, b, c, d), () -> model.places(a, b, c, d)); break;
+            case 13: same("when" + of, () -> x.when(a, f), () -> model.when(a, f)); break;
+            case 14: same("paces" + of, () -> x.paces(a, b, c, d), () -> model.paces(a, b, c, d)); break;
+            case 15: same("mark" + of, () -> x.mark(a, b, c, d, f), () -> model.mark(a, b, c, d, f)); break;
+            case 16: same("setting" + of, () -> x.setting(a, b, 4), () -> model.setting(a, b, 4)); break;
+            case 17: same("way" + of, () -> x.way(a), () -> model.way(a)); break;
+            case 18: same("met" + of, () -> x.met(a, b, c), () -> model.met(a, b, c)); break;
+            default: same("count" + of, () -> x.count(a), () -> model.count(a));
+        }
     }
 
     private void setting() {

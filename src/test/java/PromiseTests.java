@@ -1037,9 +1037,9 @@ public final class PromiseTests {
         Texts.law(x, "charge 5 if far < 3");
         x.now(6, 7);
         x.trace(1, 2, 0, 3, 4);
-        String before = all(x);
+        String before = Portrait.of(x);
         x.image();
-        Check.same("as it was", all(x), before);
+        Check.same("as it was", Portrait.of(x), before);
         Texts.harbour(x, "hole 2 3; thing 9 9 9 9 9 from 9 to 9; ship 9 9 9 9 9 pace 9 from 9 to 9; wall 9 from 9 to 9 top 9;"
                 + "clear; fog 99; moon 9; tide 9 9");
         Texts.law(x, "charge 1; charge 2");
@@ -1047,17 +1047,17 @@ public final class PromiseTests {
         x.undo();
         x.trace(5, 5, 1, 5, 5);
         x.trace(6, 6, 1, 6, 6);
-        String after = all(x);
+        String after = Portrait.of(x);
         Texts.harbourFault(x, "fog 0");
         Texts.feed(x, "fog 77");
         Check.same("back", x.back(), true);
-        Check.same("as it was", all(x), before);
+        Check.same("as it was", Portrait.of(x), before);
         Check.same("but for the fault", x.fault(), 4);
         Check.same("and the tape", x.end(6), true);
         Check.same("texts are counted from there", x.harbour(), 2);
         Check.same("the tape's text", x.count(9), 77);
         Check.same("back again", x.back(), true);
-        Check.same("as it was", all(x), before);
+        Check.same("as it was", Portrait.of(x), before);
         Texts.harbour(x, "moon 1");
         x.image();
         Texts.harbour(x, "moon 2");
@@ -1072,31 +1072,6 @@ public final class PromiseTests {
         y.back();
         Check.same("back to nothing", y.count(2), 0);
         Check.same("back to no law", y.count(4), NONE);
-    }
-
-    /** What can be asked without changing anything, as one text. */
-    private static String all(WallHarbour x) {
-        StringBuilder all = new StringBuilder();
-        for (int what = 0; what < 16; what++) {
-            all.append(x.count(what)).append(' ');
-        }
-        for (int body = 0; body < 16; body++) {
-            for (int what = 0; what < 8; what++) {
-                try {
-                    all.append(x.body(body, what)).append(' ').append(x.charge(body)).append(' ');
-                    all.append(x.spot(body, 0, true, 1)).append(' ').append(x.spot(body, 0, false, 1)).append(' ');
-                } catch (IndexOutOfBoundsException e) {
-                    all.append("- ");
-                }
-            }
-        }
-        for (int minute = 0; minute < 1440; minute += 60) {
-            all.append(x.tide(1, minute)).append(' ');
-        }
-        for (int z = -9; z < 9; z++) {
-            all.append(x.places(-1, z, 0, 0)).append(' ').append(x.places(-1, z, 1, 0)).append(' ');
-        }
-        return all.toString();
     }
 
     private static void readmesExample() {

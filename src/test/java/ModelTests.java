@@ -38,7 +38,11 @@ public final class ModelTests {
         }
     }
 
+    /** What an object answers behind its last call is free, and is not asked. */
     private void same(String call, IntSupplier got, IntSupplier due) {
+        if (calls == CALLS) {
+            return;
+        }
         calls++;
         Check.same("run " + run + ", call " + calls + ": " + call, answer(got), answer(due));
     }
@@ -113,10 +117,18 @@ public final class ModelTests {
             case 0: end(chance.nextInt(60) - 5); break;
             case 1: read(chance.nextBoolean()); break;
             case 2: same("back()", () -> x.back() ? 1 : 0, () -> model.back() ? 1 : 0); break;
-            default:
-                x.image();
-                model.image();
+            default: same("image()", () -> imageOf(x), () -> imageOf(model));
         }
+    }
+
+    private static int imageOf(WallHarbour x) {
+        x.image();
+        return 0;
+    }
+
+    private static int imageOf(Model model) {
+        model.image();
+        return 0;
     }
 
     private int day() {
@@ -261,7 +273,7 @@ public final class ModelTests {
 
     /** Undoes some tracings, so that there is room for others. */
     private void makeRoom() {
-        while (model.world.tracings.size() > 20) {
+        while (calls < CALLS && model.world.tracings.size() > 20) {
             same("undo", x::undo, model::undo);
         }
     }

@@ -19,7 +19,6 @@ public final class PromiseTests {
         law();
         lawConditions();
         harbourFaults();
-        figures();
         harbourFaultsOfOrder();
         lawFaults();
         now();
@@ -263,27 +262,6 @@ public final class PromiseTests {
             Check.same("fault ahead", x.fault(), 3);
             Check.same("fault of " + fault[0], Texts.harbourFault(x, (String) fault[0]), (Integer) fault[1]);
             Check.same("texts behind " + fault[0], x.count(3), (Integer) fault[1] == NONE ? 1 : 0);
-        }
-    }
-
-    /** Each number may have three figures (of a ship's from and to four), and one more is too many. */
-    private static void figures() {
-        String[] lines = {"thing west 1 1 1 1 1 from 1 to 1", "ship west 1 1 1 1 1 pace west 1 from 1 to 1", "hole west 1 1",
-            "wall 1 from west 1 to west 1 top 1", "cloud 1 1", "fog 1", "moon 1", "tide 1 low 1", "charge 1 if 1<1+1"};
-        for (String line : lines) {
-            boolean isLaw = line.startsWith("charge");
-            int number = 0;
-            for (int at = 0; at < line.length(); at++) {
-                if (line.charAt(at) == '1') {
-                    number++;
-                    boolean isMinute = line.startsWith("ship") && number > 6;
-                    String most = line.substring(0, at) + (isMinute ? "000" : "00") + line.substring(at);
-                    String more = line.substring(0, at) + (isMinute ? "0000" : "000") + line.substring(at);
-                    WallHarbour x = new WallHarbour();
-                    Check.same("figures of " + most, isLaw ? Texts.lawFault(x, most) : Texts.harbourFault(x, most), NONE);
-                    Check.same("figures of " + more, isLaw ? Texts.lawFault(x, more) : Texts.harbourFault(x, more), at);
-                }
-            }
         }
     }
 

@@ -668,6 +668,12 @@ public final class SearchEdgeTests {
         Texts.harbour(x, "tide 0 9; wall 10 from west 99 to 99 top 14");
         Check.same("at high tide", x.way(NONE), 0);
         Check.same("at high tide", lanes(x), "0000000000000");
+        // V is 20 in lane 0, and 19 at a height of 1; the other lanes have 15 and less
+        WallHarbour deep = Texts.with("hole 0 10; wall 20 from west 99 to 99 top 19; tide 0 1");
+        deep.now(0, NOON);
+        Check.same("at height 0 it is beyond the wall", deep.way(NONE), 0);
+        Texts.harbour(deep, "wall 20 from west 99 to 99 top 20; tide 0 low 1");
+        Check.same("at height 0 it is at the wall's end", deep.way(NONE), 13);
     }
 
     /** "by how many minutes it is SEEN by some HOLE". */

@@ -19,6 +19,7 @@ public final class SightEdgeTests {
         hidersSides();
         hidersHeights();
         hidersFractions();
+        hidersByASideHole();
         onlyWhatIsThereHides();
         hiderWhateverIsSeen();
         leastHider();
@@ -35,6 +36,8 @@ public final class SightEdgeTests {
         met();
         metOfOneY();
         image();
+        latestImage();
+        imageOfATracing();
         imageOfNothing();
         counts();
         Check.finish("SightEdgeTests");
@@ -262,6 +265,22 @@ public final class SightEdgeTests {
             {"thing 0 1 1 11 99", NONE}, {"thing 1 1 1 0 99", NONE}};
         for (Object[] row : rows) {
             hides((String) row[0] + " from 0 to 0", (Integer) row[1]);
+        }
+    }
+
+    /** The line begins at the HOLE: by one at - 50 and one at 50 what hides is elsewhere. */
+    private static void hidersByASideHole() {
+        // the lines from - 50, 10 and from 50, 40 to 10, 20 at 100 are at 25: - 35, 12.5 and 40, 35; at 50: - 20, 15 and 30, 30
+        Object[][] rows = {{"west 37 25 2 12 13", 1, NONE}, {"west 38 25 2 12 13", NONE, NONE}, {"west 33 25 2 12 13", 1, NONE},
+            {"west 32 25 2 12 13", NONE, NONE}, {"38 25 2 35 35", NONE, 1}, {"37 25 2 35 35", NONE, NONE}, {"42 25 2 35 35", NONE, 1},
+            {"43 25 2 35 35", NONE, NONE}, {"40 25 0 34 34", NONE, NONE}, {"west 20 50 0 15 15", 1, NONE}, {"30 50 0 30 30", NONE, 1},
+            {"west 20 50 0 30 30", NONE, NONE}, {"30 50 0 15 15", NONE, NONE}, {"west 35 25 0 13 99", NONE, NONE}};
+        for (Object[] row : rows) {
+            WallHarbour x = Texts.with("hole west 50 10; hole 50 40; thing 10 100 0 0 20 from 0 to 0; thing " + row[0] + " from 0 to 0");
+            Check.same("by the hole at - 50: " + row[0], x.hider(0, 0), (Integer) row[1]);
+            Check.same("by the hole at 50: " + row[0], x.hider(0, 1), (Integer) row[2]);
+            Check.same("met by the hole at - 50: " + row[0], x.met(0, 1, 0), (Integer) row[1] == NONE ? NONE : 0);
+            Check.same("met by the hole at 50: " + row[0], x.met(0, 1, 1), (Integer) row[2] == NONE ? NONE : 0);
         }
     }
 
@@ -541,20 +560,48 @@ public final class SightEdgeTests {
             x.now(i, i);
             x.undo();
         }
-        x.back();
-        Texts.harbour(x, "fog 77");
-        String third = Portrait.of(x);
+    }
+
+    /** "THE IMAGE (one)", "(but for the TAPE, fault() and THE IMAGE itself)". */
+    private static void latestImage() {
+        WallHarbour x = Texts.with("hole 0 10; fog 76");
         x.image();
-        Texts.harbour(x, "fog 78");
+        Texts.harbour(x, "fog 77");
+        String latest = Portrait.of(x);
+        x.image();
+        Texts.harbour(x, "fog 78; hole 1 1");
         x.back();
-        Check.same("one image alone: the latest", Portrait.of(x), third);
+        Check.same("one image alone: the latest", Portrait.of(x), latest);
+        Texts.harbourFault(x, "fog 0");
         Texts.feed(x, "fog 5");
         x.back();
+        Check.same("the fault stays", x.fault(), 4);
+        Check.same("nothing more on the tape", x.end(6), false);
         Check.same("the tape stays", x.end(5), true);
         Check.same("the tape stays", x.harbour(), 3);
         Check.same("the tape's fog", x.count(9), 5);
         x.back();
         Check.same("it may be gone back to again", x.count(9), 77);
+        Check.same("the tape is used up as it was", x.end(1), false);
+        Check.same("the fault too", x.fault(), NONE);
+    }
+
+    /** Of "all" a TRACING's DAY, minute, HOLE, U and V too, where another has come in its place since. */
+    private static void imageOfATracing() {
+        int[][] others = {{8, 60, 0, -1, 9}, {7, 59, 0, -1, 9}, {7, 60, 1, -1, 9}, {7, 60, 0, 0, 9}, {7, 60, 0, -1, 8}};
+        for (int[] other : others) {
+            WallHarbour x = Texts.with("hole 0 10; hole 9 9; thing 1 50 0 0 11 from 7 to 7; ship west 59 50 0 0 10 pace 1 from 60 to 60;"
+                    + "tide 1 1");
+            x.trace(7, 60, 0, -1, 9);
+            int both = 1 | 1 << 10;
+            Check.same("the first", x.which(0), both);
+            x.image();
+            x.undo();
+            x.trace(other[0], other[1], other[2], other[3], other[4]);
+            Check.tell(x.which(0) != both, "another fits as the first does");
+            x.back();
+            Check.same("the one of the image", x.which(0), both);
+        }
     }
 
     /** "false, and nothing happens, if none was kept." */

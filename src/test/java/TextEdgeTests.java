@@ -27,6 +27,7 @@ public final class TextEdgeTests {
         mostTexts();
         mostLines();
         figures();
+        figuresOfEach();
         words();
         blanks();
         neighboursOfSigns();
@@ -313,6 +314,27 @@ public final class TextEdgeTests {
         }
         Check.same("charge 0005", Texts.lawFault(new WallHarbour(), "charge 0005"), 7);
         Check.same("1 < 0005", Texts.lawFault(new WallHarbour(), "charge 005 if 1<0005"), 16);
+    }
+
+    /** Each number may have three figures (of a ship's from and to four), and one more is too many. */
+    private static void figuresOfEach() {
+        String[] lines = {"thing west 1 1 1 1 1 from 1 to 1", "ship west 1 1 1 1 1 pace west 1 from 1 to 1", "hole west 1 1",
+            "wall 1 from west 1 to west 1 top 1", "cloud 1 1", "fog 1", "moon 1", "tide 1 low 1", "charge 1 if 1<1+1"};
+        for (String line : lines) {
+            boolean isLaw = line.startsWith("charge");
+            int number = 0;
+            for (int at = 0; at < line.length(); at++) {
+                if (line.charAt(at) == '1') {
+                    number++;
+                    boolean isMinute = line.startsWith("ship") && number > 6;
+                    String most = line.substring(0, at) + (isMinute ? "000" : "00") + line.substring(at);
+                    String more = line.substring(0, at) + (isMinute ? "0000" : "000") + line.substring(at);
+                    WallHarbour x = new WallHarbour();
+                    Check.same("figures of " + most, isLaw ? Texts.lawFault(x, most) : Texts.harbourFault(x, most), NONE);
+                    Check.same("figures of " + more, isLaw ? Texts.lawFault(x, more) : Texts.harbourFault(x, more), at);
+                }
+            }
+        }
     }
 
     /** "Words are as long as a to z go on": "a word that is none". */

@@ -45,6 +45,7 @@ public final class SearchEdgeTests {
         lastMinutesOfTheWay();
         tideOnTheWay();
         wayByAnyHole();
+        wayBehindABody();
         Check.finish("SearchEdgeTests");
     }
 
@@ -689,6 +690,34 @@ public final class SearchEdgeTests {
         // by that at - 10 at X - 30 in lane 0, - 50 in lane 1, beyond - 60 in the others
         Check.same("the third is gone about", x.way(NONE), 1);
         Check.same("the third is gone about", lanes(x), "0001000000000");
+    }
+
+    /** "SEEN at a place as if it were the TIP of a BODY": hidden by what is of lesser Y than its lane, and THERE at that minute. */
+    private static void wayBehindABody() {
+        String wall = "hole 0 10; wall 10 from west 99 to 99 top 99;";
+        // at 19 the line is within 20 of the middle up to X 20 in lane 0, 40 in lane 1, 60 in lane 2
+        WallHarbour before = Texts.with(wall + "thing 0 19 20 0 99 from 5 to 5");
+        before.now(5, NOON);
+        Check.same("ahead of lane 0", before.way(NONE), 0);
+        Check.same("ahead of lane 0", lanes(before), "2211000001122");
+        before.now(6, NOON);
+        Check.same("it is gone", before.way(NONE), 13);
+        // at 20 it hides nothing in lane 0, up to X 40 in lane 1, up to 60 in lane 2
+        WallHarbour beside = Texts.with(wall + "thing 0 20 20 0 99 from 5 to 5");
+        beside.now(5, NOON);
+        Check.same("in lane 0", beside.way(NONE), 0);
+        Check.same("in lane 0", lanes(beside), "2211111111122");
+        WallHarbour behind = Texts.with(wall + "thing 0 120 20 0 99 from 5 to 5; thing 0 121 20 0 99 from 5 to 5");
+        behind.now(5, NOON);
+        Check.same("in lane 5 and behind it", behind.way(NONE), 13);
+        // at 1 the line is at X by 20, .. by 120: at 0 at minute 6 alone
+        int[][] ships = {{725, 725}, {726, 726}, {727, 727}, {726, 1439}, {727, 1439}, {0, 726}, {0, 725}, {0, 1439}};
+        for (int[] ship : ships) {
+            WallHarbour x = Texts.with(wall + "ship 0 1 0 9 10 pace 0 from " + ship[0] + " to " + ship[1]);
+            x.now(5, NOON);
+            int hidden = ship[0] <= 726 && 726 <= ship[1] ? 1 : 0;
+            Check.same("behind a mast from " + ship[0] + " to " + ship[1], x.way(NONE), 13 - hidden);
+        }
     }
 
     private static String lanes(WallHarbour x) {

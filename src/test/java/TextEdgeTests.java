@@ -272,11 +272,14 @@ public final class TextEdgeTests {
             Check.same("fog", x.count(9), 9);
         }
         Check.same("a law may come", Texts.law(x, "charge 1"), 1);
-        WallHarbour y = Texts.with("", "", "", "", "", "", "", "", "");
+        WallHarbour y = Texts.with(times(9, DOT), times(5, BOAT), "hole 0 1;hole 0 1", "", "", "", "", "", "");
         y.image();
-        Texts.harbour(y, "");
+        Texts.harbour(y, DOT + ";" + BOAT + ";hole 0 1");
         y.back();
-        Check.same("a 10th again", Texts.harbour(y, "fog 7"), 10);
+        Check.same("a 10th again", Texts.harbour(y, DOT + ";" + BOAT + ";hole 0 1"), 10);
+        Check.same("a 10th thing again", y.count(0), 10);
+        Check.same("a 6th ship again", y.count(1), 6);
+        Check.same("a 3rd hole again", y.count(2), 3);
     }
 
     /** "LINE { ; LINE }, at most 14", of a law "at most 12": "of a LINE too many the first word". */

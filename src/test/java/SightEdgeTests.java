@@ -399,6 +399,18 @@ public final class SightEdgeTests {
                 Check.same("V of " + row[1], x.spot(0, 0, true, what), row[3 + what]);
             }
         }
+        // by a wall 1 behind U is - X by Y, V is 10 and (10 less HIGH) by Y
+        int[][] near = {{7, 3, 12, -7, 3, 28, 3}, {-99, 299, 99, 99, 299, 2901, 299}, {99, 1, 99, -99, 1, -79, 1}, {1, 300, 11, -1, 300, 2999, 300},
+            {-98, 99, 0, 98, 99, 1000, 99}, {64, 48, 26, -4, 3, 29, 3}};
+        for (int[] row : near) {
+            String side = row[0] < 0 ? "west " + -row[0] : "" + row[0];
+            WallHarbour x = Texts.with("wall 1 from 0 to 0 top 0; hole 0 10; thing " + side + " " + row[1] + " 0 0 " + row[2]
+                    + " from 0 to 0");
+            for (int what = 1; what <= 2; what++) {
+                Check.same("U of " + side + " at " + row[1], x.spot(0, 0, false, what), row[2 + what]);
+                Check.same("V of " + row[2] + " at " + row[1], x.spot(0, 0, true, what), row[4 + what]);
+            }
+        }
         WallHarbour zero = Texts.with("hole 0 10; thing 0 10 0 0 20 from 0 to 0");
         Check.same("V 0, above", zero.spot(0, 0, true, 1), 0);
         Check.same("V 0, below", zero.spot(0, 0, true, 2), 1);
